@@ -1,0 +1,160 @@
+/** Promises 25 to 27: search, goOn, spent. */
+public final class SolverTest {
+    private static final Check CHECK = new Check();
+
+    public static void main(String[] args) {
+        search();
+        pauses();
+        end();
+        claims();
+        logic();
+        followsChanges();
+        CHECK.finish("SolverTest");
+    }
+
+    private static void search() {
+        AlmanacLoom loom = new AlmanacLoom();
+        CHECK.argument("goOn with 0", () -> loom.goOn(0));
+        CHECK.argument("goOn with 100001", () -> loom.goOn(100001));
+        CHECK.state("goOn without a search", () -> loom.goOn(1));
+        CHECK.argument("search without a question", () -> loom.search(0));
+        Check.write(loom, "(C|N00)");
+        CHECK.argument("search from -1", () -> loom.search(-1));
+        CHECK.argument("search from 400", () -> loom.search(400));
+        CHECK.state("search with a feast that there is not", () -> loom.search(0));
+        CHECK.state("goOn still without a search", () -> loom.goOn(1));
+        CHECK.same("the text is still there", loom.wipe(), 7);
+        Check.add(loom, "D0101", 0, true);
+        Check.write(loom, "B0001");
+        CHECK.state("search with a second feast that there is not", () -> loom.search(0));
+        loom.wipe();
+        Check.write(loom, "(C|N00)");
+        CHECK.same("search", loom.search(7), 2);
+        CHECK.same("the text is empty", loom.wipe(), 0);
+        CHECK.same("nothing is paid", loom.spent(), 0);
+        CHECK.same("goOn", loom.goOn(2), 7);
+        CHECK.argument("search without a question again", () -> loom.search(0));
+        CHECK.same("the search goes on", loom.goOn(100000), 8);
+        CHECK.argument("goOn with -1", () -> loom.goOn(-1));
+        CHECK.same("spent", loom.spent(), 4);
+    }
+
+    private static void pauses() {
+        AlmanacLoom loom = new AlmanacLoom();
+        Check.add(loom, "D0229?Y{+1}", 0, true);
+        Check.write(loom, "W006");
+        CHECK.same("search", loom.search(1), 4);
+        CHECK.same("too little", loom.goOn(3), AlmanacLoom.PAUSED);
+        CHECK.same("nothing is paid", loom.spent(), 0);
+        CHECK.same("one year", loom.goOn(4), AlmanacLoom.PAUSED);
+        CHECK.same("one is paid", loom.spent(), 4);
+        CHECK.same("two years", loom.goOn(11), AlmanacLoom.PAUSED);
+        CHECK.same("three are paid", loom.spent(), 12);
+        CHECK.same("a leap year is dearer", loom.goOn(4), AlmanacLoom.PAUSED);
+        CHECK.same("it is not paid", loom.spent(), 12);
+        // 1 March of the years 4, 8, 12, 16 and 20 are a Monday, a Saturday, and so on
+        CHECK.same("found", loom.goOn(100000), 8);
+        CHECK.same("only that far", loom.spent(), 12 + 5 + 12 + 5);
+        Check.write(loom, "W001");
+        CHECK.same("search anew", loom.search(0), 5);
+        CHECK.same("what was paid stays", loom.spent(), 34);
+        CHECK.same("found anew", loom.goOn(22), 4);
+        CHECK.same("all searches together", loom.spent(), 34 + 22);
+    }
+
+    private static void end() {
+        AlmanacLoom loom = new AlmanacLoom();
+        Check.write(loom, "!C");
+        CHECK.same("search", loom.search(390), 1);
+        CHECK.same("nine years", loom.goOn(9), AlmanacLoom.PAUSED);
+        CHECK.same("the last year", loom.goOn(1), AlmanacLoom.NONE);
+        CHECK.same("no year is left", loom.goOn(1), AlmanacLoom.NONE);
+        CHECK.same("spent", loom.spent(), 10);
+        Check.write(loom, "C");
+        CHECK.same("search", loom.search(399), 1);
+        CHECK.same("the last year is found", loom.goOn(1), 399);
+        CHECK.same("no year is left then", loom.goOn(1), AlmanacLoom.NONE);
+        CHECK.same("spent then", loom.spent(), 11);
+    }
+
+    private static void claims() {
+        AlmanacLoom loom = new AlmanacLoom();
+        Check.add(loom, "D0301", 5, true);
+        Check.add(loom, "D0301", 4, true);
+        Check.add(loom, "D0229?!Y{}{X}", 4, true);
+        Check.add(loom, "D0228+1", 3, false);
+        holds(loom, 1, "C", false);
+        holds(loom, 1, "D000301", true);
+        holds(loom, 1, "D010302", true);
+        holds(loom, 1, "D010301", false);
+        holds(loom, 1, "D000229", false);
+        holds(loom, 1, "D030301", false);
+        holds(loom, 1, "W004", true);
+        holds(loom, 1, "W014", false);
+        holds(loom, 1, "W015", true);
+        holds(loom, 1, "W026", false);
+        holds(loom, 1, "N00", false);
+        holds(loom, 1, "N02", true);
+        holds(loom, 1, "N03", true);
+        holds(loom, 1, "B0001", true);
+        holds(loom, 1, "B0100", false);
+        holds(loom, 1, "B0000", false);
+        holds(loom, 1, "B0200", false);
+        holds(loom, 1, "B0002", false);
+        holds(loom, 4, "D030229", true);
+        holds(loom, 4, "B0300", true);
+        loom.dispense(0, 4, 1);
+        holds(loom, 4, "C", true);
+        holds(loom, 4, "D000302", true);
+    }
+
+    private static void logic() {
+        AlmanacLoom loom = new AlmanacLoom();
+        Check.add(loom, "D0101", 5, true);
+        String yes = "D000101";
+        String no = "N00";
+        holds(loom, 3, "!" + yes, false);
+        holds(loom, 3, "!" + no, true);
+        holds(loom, 3, "!!" + no, false);
+        holds(loom, 3, "(" + yes + "&" + yes + ")", true);
+        holds(loom, 3, "(" + yes + "&" + no + ")", false);
+        holds(loom, 3, "(" + no + "&" + yes + ")", false);
+        holds(loom, 3, "(" + no + "|" + yes + ")", true);
+        holds(loom, 3, "(" + yes + "|" + no + ")", true);
+        holds(loom, 3, "(" + no + "|" + no + ")", false);
+        holds(loom, 3, "!(" + no + "|" + no + ")", true);
+        holds(loom, 3, "((" + yes + "|" + no + ")&" + no + ")", false);
+        holds(loom, 3, "(" + yes + "|(" + no + "&" + no + "))", true);
+        holds(loom, 3, "(" + no + "&(" + yes + "|" + yes + "))", false);
+        holds(loom, 3, "!".repeat(39) + "C", false);
+    }
+
+    private static void followsChanges() {
+        AlmanacLoom loom = new AlmanacLoom();
+        Check.add(loom, "D0106Q", 5, true);
+        Check.write(loom, "D000106");
+        loom.search(0);
+        CHECK.same("goOn", loom.goOn(8), 0);
+        Check.write(loom, "D0106");
+        loom.mend(0);
+        CHECK.same("a mended feast is cheaper", loom.goOn(2), 1);
+        loom.dispense(0, 2, 1);
+        CHECK.same("a bent feast is elsewhere", loom.goOn(4), 3);
+        Check.write(loom, "D0104+2O");
+        loom.mend(0);
+        CHECK.same("spent", loom.spent(), 8 + 2 + 4);
+        loom.wipe();
+        Check.write(loom, "D0106Q");
+        loom.mend(0);
+        Check.write(loom, "D000107");
+        loom.table(AlmanacLoom.BOOK_MOON);
+        CHECK.same("search by the book", loom.search(0), 8);
+        CHECK.same("goOn by the book", loom.goOn(8), 0);
+    }
+
+    private static void holds(AlmanacLoom loom, int year, String question, boolean due) {
+        Check.write(loom, question);
+        int cost = loom.search(year);
+        CHECK.same(question + " in " + year, loom.goOn(cost), due ? year : AlmanacLoom.PAUSED);
+    }
+}
