@@ -1100,7 +1100,7 @@ public final class AlmanacLoom {
                 } else if (kind >= Code.ON_WEEKDAY && kind <= Code.BEFORE_DATE) {
                     holds = conditionHolds(kind, argument);
                 } else if (kind <= Code.FEAST) {
-                    start(kind, argument);
+                    goToStart(kind, argument);
                 } else {
                     move(kind, argument);
                 }
@@ -1109,7 +1109,7 @@ public final class AlmanacLoom {
             return cost;
         }
 
-        private void start(int kind, int argument) {
+        private void goToStart(int kind, int argument) {
             switch (kind) {
                 case Code.DATE:
                     walk.toDate(argument);

@@ -10,6 +10,7 @@ public final class BellTest {
         rests();
         parishes();
         placedNotBent();
+        lastDay();
         midnight();
         wrongCalls();
         CHECK.finish("BellTest");
@@ -136,6 +137,21 @@ public final class BellTest {
         loom.dispense(1, 1, 1);
         rings(loom, 0, 0, 0);
         rings(loom, 1, 0, 1);
+    }
+
+    private static void lastDay() {
+        AlmanacLoom loom = new AlmanacLoom();
+        Check.add(loom, "D1231", 1, false);
+        Check.add(loom, "D0101", 2, false);
+        loom.bells(2, 2);
+        loom.ringer(2, 6);
+        for (int year = 0; year <= 1; year++) {
+            CHECK.same("rings on the last day", loom.rings(0, year, 2, 0), 0);
+            CHECK.same("rings on the first day", loom.rings(1, year, 2, 0), 0);
+            CHECK.same("is alone on the first day", loom.rings(1, year, 2, 1), -1);
+            CHECK.same("silent", loom.silent(year), 1);
+            CHECK.same("peals", loom.peals(0, year), 2);
+        }
     }
 
     private static void midnight() {

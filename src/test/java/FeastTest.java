@@ -184,6 +184,8 @@ public final class FeastTest {
         bent("N5401", 1, -1);
         bent("N4402", 1, 52);
         bent("N5402", 4, -1);
+        bent("N5004", 1, 118);
+        bent("N5004", 3, -1);
         bent("L301", 1, 30);
         bent("L401", 1, 24);
         bent("L112", 1, 364);
@@ -219,7 +221,28 @@ public final class FeastTest {
         bent("D0120O", 0, 19);
         bent("D0121O", 0, 48);
         bent("D1231O", 0, -1);
+        moonByAges("O", 14, 399);
+        moonByAges("Q", 0, 399);
+        moonByAges("O", 14, 100);
+        moonByAges("Q", 0, 37);
         bent("D0101X", 0, -1);
+    }
+
+    private static void moonByAges(String step, int age, int year) {
+        AlmanacLoom loom = new AlmanacLoom();
+        Check.add(loom, "D0101" + step, 5, true);
+        Check.add(loom, "D1101" + step, 5, true);
+        for (int table = 0; table <= 1; table++) {
+            loom.table(table);
+            for (int feast = 0; feast <= 1; feast++) {
+                int due = feast == 0 ? 0 : 304 + (loom.date(year, 365) < 0 ? 0 : 1);
+                while (loom.age(loom.begin(year) + due, table) != age) {
+                    due++;
+                }
+                CHECK.same(step + " in " + year + " by " + table, loom.bent(feast, year), due);
+                CHECK.same(step + " in " + year + " by " + table + ", by days", loom.dayByDays(feast, year), due);
+            }
+        }
     }
 
     private static void noDay() {

@@ -165,8 +165,9 @@ public final class ModelTest {
         int bell = mostly() ? any(6) : any(2) * 7 - 1;
         int ringer = any(26) - 1;
         if (kind < 29) {
-            return same("rings " + feast + " " + year + " " + parish + " " + bell,
+            same("rings " + feast + " " + year + " " + parish + " " + bell,
                     () -> loom.rings(feast, year, parish, bell), () -> model.rings(feast, year, parish, bell));
+            return any(8) == 0 ? 1 + allRings(year) : 1;
         }
         if (kind < 31) {
             return same("silent " + year, () -> loom.silent(year), () -> model.silent(year));
@@ -176,6 +177,20 @@ public final class ModelTest {
                     () -> model.peals(ringer, year));
         }
         return same("spent", () -> loom.spent(), () -> model.spent());
+    }
+
+    private int allRings(int year) {
+        for (int feast = 0; feast < loom.feasts(); feast++) {
+            for (int bell = 0; bell < 36; bell++) {
+                int of = feast;
+                int at = bell;
+                same("rings " + of + " " + year + " " + at / 6 + " " + at % 6,
+                        () -> loom.rings(of, year, at / 6, at % 6), () -> model.rings(of, year, at / 6, at % 6));
+            }
+            int of = feast;
+            same("isMidnight " + of, () -> loom.isMidnight(of, year), () -> model.isMidnight(of, year));
+        }
+        return 8;
     }
 
     private int addFeast() {
@@ -260,6 +275,9 @@ public final class ModelTest {
         int kind = any(10);
         if (kind < 3 && feasts > 0) {
             start = "F" + two(any(Math.min(feasts, 20)));
+        } else if (kind < 5) {
+            // so that the tables differ, and feasts ring at midnight
+            start = "D" + someDate() + (any(2) == 0 ? 'O' : 'Q');
         } else if (kind < 7) {
             start = "D" + someDate();
         } else if (kind < 9) {

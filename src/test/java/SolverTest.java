@@ -103,6 +103,16 @@ public final class SolverTest {
         holds(loom, 1, "B0002", false);
         holds(loom, 4, "D030229", true);
         holds(loom, 4, "B0300", true);
+        for (int feast = 4; feast < 20; feast++) {
+            Check.add(loom, "D0701+" + feast, 3, false);
+        }
+        // 17 July of the year 1 is a Tuesday
+        holds(loom, 1, "W162", true);
+        holds(loom, 1, "W163", false);
+        holds(loom, 1, "D190720", true);
+        holds(loom, 1, "B1819", true);
+        holds(loom, 1, "B1918", false);
+        holds(loom, 1, "N19", false);
         loom.dispense(0, 4, 1);
         holds(loom, 4, "C", true);
         holds(loom, 4, "D000302", true);
