@@ -63,6 +63,10 @@ public final class TextTest {
         rule("F20", 1);
         rule("F1", 2);
         rule("F1x", 2);
+        rule("F0:", 2);
+        rule("F0/", 2);
+        rule("L:01", 1);
+        rule("D020:", 4);
     }
 
     private static void days() {
@@ -78,6 +82,11 @@ public final class TextTest {
         rule("F00+365-1+36", -1);
         rule("F00+1-", 6);
         rule("F00+-1", 4);
+        rule("F00+:", 4);
+        rule("F00+/", 4);
+        rule("F00+1:", 5);
+        rule("F00+1/", 5);
+        rule("F00+12:", 6);
         rule("F00+36O", -1);
     }
 
@@ -154,6 +163,9 @@ public final class TextTest {
         question("!", 1);
         question("(C&N00)", -1);
         question("(C|!N00)", -1);
+        question("(", 1);
+        question("((", 2);
+        question("(C", 2);
         question("(C)", 2);
         question("(C&C", 4);
         question("Y", 0);
