@@ -348,6 +348,21 @@ public final class FeastTest {
     }
 
     private static void sameByDays() {
+        for (int table = 0; table <= 1; table++) {
+            for (int first = table; first <= 399; first += 100) {
+                AlmanacLoom loom = movables();
+                loom.table(table);
+                for (int year = first; year <= Math.min(first + 99, 399); year += 4) {
+                    for (int feast = 0; feast <= 5; feast++) {
+                        int due = loom.day(feast, year);
+                        CHECK.same("dayByDays " + feast + " " + year, loom.dayByDays(feast, year), due);
+                    }
+                }
+            }
+        }
+    }
+
+    private static AlmanacLoom movables() {
         AlmanacLoom loom = new AlmanacLoom();
         Check.add(loom, "D0321O>0", 9, false);
         Check.add(loom, "F00-46", 8, true);
@@ -355,14 +370,7 @@ public final class FeastTest {
         Check.add(loom, "D0325?(A00|!E0401){+7?W0{+1}{-3}}{]2}", 6, true);
         Check.add(loom, "N2304Q?!(W1&Y){-1-1}{<2[6}", 6, true);
         Check.add(loom, "L604+1>5?A02{X}", 6, false);
-        for (int table = 0; table <= 1; table++) {
-            loom.table(table);
-            for (int year = table; year <= 399; year += 11) {
-                for (int feast = 0; feast < loom.feasts(); feast++) {
-                    CHECK.same("dayByDays " + feast + " " + year, loom.dayByDays(feast, year), loom.day(feast, year));
-                }
-            }
-        }
+        return loom;
     }
 
     private static void clashes() {

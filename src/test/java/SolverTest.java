@@ -9,6 +9,13 @@ public final class SolverTest {
         claims();
         logic();
         followsChanges();
+        exactCosts();
+        leftoversAreLost();
+        firstAndLastYears();
+        dearYears();
+        anewInPlaceOfTheOneBefore();
+        refusedSearches();
+        edgesOfClaims();
         CHECK.finish("SolverTest");
     }
 
@@ -160,6 +167,153 @@ public final class SolverTest {
         loom.table(AlmanacLoom.BOOK_MOON);
         CHECK.same("search by the book", loom.search(0), 8);
         CHECK.same("goOn by the book", loom.goOn(8), 0);
+    }
+
+    private static void exactCosts() {
+        AlmanacLoom loom = new AlmanacLoom();
+        Check.add(loom, "D0101OQ", 5, true);
+        Check.write(loom, "C");
+        CHECK.same("search", loom.search(5), 14);
+        CHECK.same("one too little", loom.goOn(13), AlmanacLoom.PAUSED);
+        CHECK.same("nothing is paid", loom.spent(), 0);
+        CHECK.same("the least cost", loom.goOn(1), AlmanacLoom.PAUSED);
+        CHECK.same("the same year is next", loom.goOn(14), 5);
+        CHECK.same("it is paid", loom.spent(), 14);
+        CHECK.same("one more is not needed", loom.goOn(15), 6);
+        CHECK.same("the greatest cost", loom.goOn(100000), 7);
+        CHECK.same("only years are paid", loom.spent(), 3 * 14);
+    }
+
+    /** What is left of a cost is not kept for the next call. */
+    private static void leftoversAreLost() {
+        AlmanacLoom loom = new AlmanacLoom();
+        Check.add(loom, "D0101", 5, true);
+        Check.write(loom, "N00");
+        CHECK.same("search", loom.search(0), 2);
+        for (int i = 1; i <= 5; i++) {
+            CHECK.same("one is left", loom.goOn(3), AlmanacLoom.PAUSED);
+            CHECK.same("one year is paid", loom.spent(), 2 * i);
+        }
+        CHECK.same("a half year", loom.goOn(1), AlmanacLoom.PAUSED);
+        CHECK.same("and the other half", loom.goOn(1), AlmanacLoom.PAUSED);
+        CHECK.same("are no year", loom.spent(), 10);
+    }
+
+    private static void firstAndLastYears() {
+        AlmanacLoom loom = new AlmanacLoom();
+        Check.write(loom, "!C");
+        CHECK.same("search", loom.search(0), 1);
+        CHECK.same("no year of all", loom.goOn(100000), AlmanacLoom.NONE);
+        CHECK.same("all are paid", loom.spent(), 400);
+        Check.write(loom, "!C");
+        loom.search(0);
+        CHECK.same("one year is left", loom.goOn(399), AlmanacLoom.PAUSED);
+        CHECK.same("none is left", loom.goOn(1), AlmanacLoom.NONE);
+        CHECK.same("nothing is paid for none", loom.goOn(100000), AlmanacLoom.NONE);
+        CHECK.same("all are paid twice", loom.spent(), 800);
+        Check.add(loom, "D0101", 5, true);
+        CHECK.same("a dearer year behind the last one", loom.goOn(1), AlmanacLoom.NONE);
+        Check.write(loom, "C");
+        CHECK.same("search", loom.search(399), 2);
+        CHECK.same("the last year is too dear", loom.goOn(1), AlmanacLoom.PAUSED);
+        CHECK.same("the last year", loom.goOn(2), 399);
+        CHECK.same("no next one", loom.goOn(2), AlmanacLoom.NONE);
+        CHECK.same("spent", loom.spent(), 802);
+    }
+
+    private static void dearYears() {
+        AlmanacLoom loom = new AlmanacLoom();
+        for (int feast = 0; feast < 20; feast++) {
+            Check.add(loom, "D0101O+1Q", 5, true);
+        }
+        Check.write(loom, "!N00");
+        CHECK.same("search", loom.search(0), 20 * 14 + 1);
+        CHECK.same("too dear", loom.goOn(280), AlmanacLoom.PAUSED);
+        CHECK.same("just enough", loom.goOn(281), 0);
+        Check.write(loom, "N00");
+        loom.search(0);
+        CHECK.same("not as far as the end", loom.goOn(100000), AlmanacLoom.PAUSED);
+        int years = 100000 / 281;
+        CHECK.same("whole years are paid", loom.spent(), 281 * (1 + years));
+        CHECK.same("the others", loom.goOn(100000), AlmanacLoom.NONE);
+        CHECK.same("all years are paid", loom.spent(), 281 * (1 + 400));
+    }
+
+    private static void anewInPlaceOfTheOneBefore() {
+        AlmanacLoom loom = new AlmanacLoom();
+        Check.add(loom, "D0101", 5, true);
+        Check.write(loom, "W000");
+        loom.search(0);
+        // the year 6 begins on a Sunday
+        CHECK.same("a Sunday", loom.goOn(100000), 6);
+        Check.write(loom, "W006");
+        CHECK.same("from the first year again", loom.search(0), 2);
+        CHECK.same("a Saturday", loom.goOn(2), 0);
+        CHECK.same("the next Saturday", loom.goOn(100000), 5);
+        Check.write(loom, "W006");
+        loom.search(0);
+        CHECK.same("the same question from there on", loom.goOn(2), 0);
+        CHECK.same("spent", loom.spent(), 2 * (7 + 6 + 1));
+        Check.write(loom, "!".repeat(37) + "N00");
+        CHECK.same("a question of 40 characters", loom.search(300), 2);
+        CHECK.same("it holds", loom.goOn(2), 300);
+    }
+
+    /** A search that is refused leaves the one before. */
+    private static void refusedSearches() {
+        AlmanacLoom loom = new AlmanacLoom();
+        Check.add(loom, "D0101", 5, true);
+        Check.write(loom, "W000");
+        loom.search(7);
+        Check.write(loom, "N01");
+        CHECK.state("a feast that there is not", () -> loom.search(0));
+        CHECK.argument("a wrong year", () -> loom.search(400));
+        loom.type('1');
+        CHECK.argument("no question", () -> loom.search(0));
+        CHECK.argument("goOn with 0", () -> loom.goOn(0));
+        CHECK.same("the text stays", loom.wipe(), 4);
+        CHECK.same("the search before goes on", loom.goOn(100000), 12);
+        CHECK.same("the years 7 to 12 are paid", loom.spent(), 12);
+    }
+
+    private static void edgesOfClaims() {
+        AlmanacLoom loom = new AlmanacLoom();
+        holds(loom, 0, "C", true);
+        Check.add(loom, "D0229", 5, true);
+        Check.add(loom, "D1231", 5, true);
+        Check.add(loom, "D0101", 5, true);
+        Check.add(loom, "D1231", 4, true);
+        holds(loom, 0, "D000229", true);
+        holds(loom, 0, "D000301", false);
+        holds(loom, 0, "D000228", false);
+        holds(loom, 100, "D000229", false);
+        holds(loom, 100, "N00", true);
+        holds(loom, 0, "N00", false);
+        holds(loom, 0, "D011231", true);
+        holds(loom, 1, "D011231", true);
+        holds(loom, 0, "D020101", true);
+        holds(loom, 399, "D020101", true);
+        // behind the last day no place is left
+        holds(loom, 1, "N03", true);
+        holds(loom, 1, "D031231", false);
+        holds(loom, 1, "C", false);
+        holds(loom, 1, "B0203", false);
+        holds(loom, 1, "B0302", false);
+        holds(loom, 1, "B0201", true);
+        holds(loom, 1, "B0102", false);
+        holds(loom, 1, "B0202", false);
+        holds(loom, 100, "B0001", false);
+        holds(loom, 100, "B0100", false);
+        holds(loom, 100, "B0000", false);
+        // 31 December of the years 0 and 1 are a Sunday and a Monday
+        holds(loom, 0, "W010", true);
+        holds(loom, 1, "W011", true);
+        holds(loom, 1, "W010", false);
+        holds(loom, 0, "W026", true);
+        for (int weekday = 0; weekday <= 6; weekday++) {
+            holds(loom, 1, "W00" + weekday, false);
+            holds(loom, 1, "W03" + weekday, false);
+        }
     }
 
     private static void holds(AlmanacLoom loom, int year, String question, boolean due) {

@@ -10,6 +10,7 @@ public final class StepTest {
         longest();
         costs();
         costsOfFeasts();
+        costsOfYears();
         mended();
         wrongPlaces();
         CHECK.finish("StepTest");
@@ -116,6 +117,25 @@ public final class StepTest {
         CHECK.same("yearCost by the book", loom.yearCost(0), 7 + 2 + 5 + 11 + 1);
     }
 
+    private static void costsOfYears() {
+        AlmanacLoom loom = null;
+        for (int year = 0; year <= 399; year++) {
+            if (year % 200 == 0) {
+                loom = new AlmanacLoom();
+                Check.add(loom, "D0101?Y{O}", 0, false);
+            }
+            int due = loom.date(year, 365) == AlmanacLoom.NONE ? 3 : 9;
+            CHECK.same("yearCost " + year, loom.yearCost(year), due + 1);
+        }
+        AlmanacLoom full = new AlmanacLoom();
+        for (int feast = 0; feast < 20; feast++) {
+            CHECK.same("yearCost of " + feast, full.yearCost(399), 4 * feast + 1);
+            Check.add(full, "L012+1", 0, false);
+        }
+        CHECK.same("yearCost of 20", full.yearCost(0), 81);
+        CHECK.same("cost of the last one", full.cost(19, 399), 4);
+    }
+
     private static void mended() {
         AlmanacLoom loom = new AlmanacLoom();
         Check.add(loom, "D0101OQOQ", 0, false);
@@ -145,11 +165,14 @@ public final class StepTest {
         CHECK.argument("yearCost in 400", () -> loom.yearCost(400));
     }
 
+    // each is asked first of an object, so that none leans on what the other one found
     private static void cost(String rule, int year, int due) {
         AlmanacLoom loom = new AlmanacLoom();
         Check.add(loom, rule, 0, false);
         CHECK.same("cost of " + rule + " in " + year, loom.cost(0, year), due);
-        CHECK.same("yearCost of " + rule + " in " + year, loom.yearCost(year), due + 1);
+        AlmanacLoom other = new AlmanacLoom();
+        Check.add(other, rule, 0, false);
+        CHECK.same("yearCost of " + rule + " in " + year, other.yearCost(year), due + 1);
     }
 
     private static void steps(String rule, int... due) {

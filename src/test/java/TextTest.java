@@ -27,6 +27,9 @@ public final class TextTest {
         CHECK.argument("type a wrong one at 40", () -> loom.type((char) 200));
         CHECK.same("wipe", loom.wipe(), 40);
         CHECK.same("wipe again", loom.wipe(), 0);
+        CHECK.same("type behind a wipe", loom.type('F'), 1);
+        CHECK.same("fault of what is typed then", loom.fault(), 1);
+        CHECK.same("wipe of one", loom.wipe(), 1);
         CHECK.same("fault of none", loom.fault(), 0);
         CHECK.same("questionFault of none", loom.questionFault(), 0);
     }
