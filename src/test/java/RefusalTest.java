@@ -312,6 +312,9 @@ public final class RefusalTest {
         AlmanacLoom twin = state.made();
         Check.write(one, text);
         Check.write(twin, text);
+        // what was asked of the text before is not what the call leans on
+        one.questionFault();
+        one.fault();
         CHECK.same(call, Check.outcome(() -> refused.on(one)), due);
         CHECK.same(call + " changes nothing: the answers behind it", answers(one), answers(twin));
     }
