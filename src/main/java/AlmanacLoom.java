@@ -188,7 +188,8 @@ public final class AlmanacLoom {
     public boolean isMidnight(int feast, int year) throws IndexOutOfBoundsException, IllegalArgumentException {
         checkFeast(feast);
         checkYear(year);
-        reckonBothTables(year);
+        book.reckon(year, tableInUse);
+        otherBook.reckon(year, otherTable());
         return book.isNextTo(otherBook, feast);
     }
 
@@ -302,14 +303,14 @@ public final class AlmanacLoom {
     // ---- what several calls need
 
     private void ringYear(int year) {
-        reckonBothTables(year);
+        book.reckon(year, tableInUse);
+        otherBook.reckon(year, otherTable());
         book.placeAll();
         belfry.ringYear(almanac, book, otherBook);
     }
 
-    private void reckonBothTables(int year) {
-        book.reckon(year, tableInUse);
-        otherBook.reckon(year, tableInUse == TRUE_MOON ? BOOK_MOON : TRUE_MOON);
+    private int otherTable() {
+        return tableInUse == TRUE_MOON ? BOOK_MOON : TRUE_MOON;
     }
 
     private static void checkYear(int year) {
@@ -407,19 +408,12 @@ public final class AlmanacLoom {
             return greatNumber - newMoon(lastMoon(greatNumber, table), table);
         }
 
-        /** The first day that is not ahead of this one, and on which the moon has that age. */
-        static int dayWithAge(int greatNumber, int age, int table) {
-            int moon = lastMoon(greatNumber, table);
-            int wanted = newMoon(moon, table) + age;
-            return wanted >= greatNumber ? wanted : newMoon(moon + 1, table) + age;
-        }
-
-        private static int newMoon(int moon, int table) {
+        static int newMoon(int moon, int table) {
             return table == TRUE_MOON ? Math.floorDiv(945 * moon, 32) + 5 : Math.floorDiv(6940 * moon, 235) + 6;
         }
 
         // floor(p * k / q) <= d just if p * k < q * (d + 1), so the greatest such k needs no search
-        private static int lastMoon(int greatNumber, int table) {
+        static int lastMoon(int greatNumber, int table) {
             return table == TRUE_MOON
                     ? Math.floorDiv(32 * (greatNumber - 5 + 1) - 1, 945)
                     : Math.floorDiv(235 * (greatNumber - 6 + 1) - 1, 6940);
@@ -1022,10 +1016,14 @@ public final class AlmanacLoom {
             toLater(-daysSince(today, weekday));
         }
 
+        /** Goes to the first day that is not ahead of today, and on which the moon has that age. */
         void toMoonOfAge(int age) {
-            if (today != NONE) {
-                toDay(Calendar.dayWithAge(firstDay + today, age, table) - firstDay);
+            if (today == NONE) {
+                return;
             }
+            int moon = Calendar.lastMoon(firstDay + today, table);
+            int wanted = Calendar.newMoon(moon, table) + age - firstDay;
+            toDay(wanted >= today ? wanted : Calendar.newMoon(moon + 1, table) + age - firstDay);
         }
 
         boolean isOnWeekday(int weekday) {
