@@ -15,6 +15,8 @@ public final class BellEdgeTest {
         yearsApart();
         setAnew();
         noneRing();
+        fullestYear();
+        takingTurns();
         CHECK.finish("BellEdgeTest");
     }
 
@@ -253,5 +255,56 @@ public final class BellEdgeTest {
         loom.dispense(0, 4, 99);
         CHECK.same("it is taken away", loom.rings(0, 4, 0, 0), -1);
         CHECK.same("the other one rings", loom.rings(1, 4, 0, 0), 0);
+    }
+
+    /** All feasts, all bells and all ringers that there may be: the feasts fill 20 days. */
+    private static void fullestYear() {
+        AlmanacLoom loom = fullOfFeasts();
+        for (int parish = 0; parish < 6; parish++) {
+            loom.bells(parish, 6);
+        }
+        CHECK.same("all bells on 20 days are silent", loom.silent(1), 720);
+        for (int ringer = 0; ringer < 24; ringer++) {
+            loom.ringer(ringer % 6, 0);
+        }
+        CHECK.same("two of each parish are silent on 20 days", loom.silent(1), 240);
+        for (int ringer = 0; ringer < 24; ringer++) {
+            CHECK.same("a bell on each day", loom.peals(ringer, 1), 20);
+        }
+        for (int parish = 0; parish < 6; parish++) {
+            for (int bell = 0; bell < 6; bell++) {
+                CHECK.same("the last feast's bell", loom.rings(19, 1, parish, bell), bell < 4 ? parish + 6 * bell : -1);
+            }
+        }
+    }
+
+    /** Who has had the fewest bells is told beyond ten as well. */
+    private static void takingTurns() {
+        AlmanacLoom loom = fullOfFeasts();
+        loom.bells(4, 1);
+        loom.ringer(4, 0);
+        loom.ringer(4, 1);
+        for (int feast = 0; feast < 20; feast++) {
+            CHECK.same("in turn", loom.rings(feast, 1, 4, 0), feast % 2);
+        }
+        CHECK.same("half of them", loom.peals(0, 1), 10);
+        CHECK.same("the other half", loom.peals(1, 1), 10);
+        loom.ringer(4, 6);
+        int[] due = {0, 1, 2, 0, 1, 0, 1, 0, 1, 2, 0, 1, 0, 1, 0, 1, 2, 0, 1, 0};
+        for (int feast = 0; feast < 20; feast++) {
+            CHECK.same("with a third one, who rests long", loom.rings(feast, 1, 4, 0), due[feast]);
+        }
+        CHECK.same("who rests not", loom.peals(0, 1), 9);
+        CHECK.same("who rests a day", loom.peals(1, 1), 8);
+        CHECK.same("who rests six days", loom.peals(2, 1), 3);
+        CHECK.same("none is silent", loom.silent(1), 0);
+    }
+
+    private static AlmanacLoom fullOfFeasts() {
+        AlmanacLoom loom = new AlmanacLoom();
+        for (int feast = 0; feast < 20; feast++) {
+            Check.add(loom, "D0301", 9, true);
+        }
+        return loom;
     }
 }

@@ -16,6 +16,8 @@ public final class SolverTest {
         anewInPlaceOfTheOneBefore();
         refusedSearches();
         edgesOfClaims();
+        costsByTable();
+        dearestYears();
         CHECK.finish("SolverTest");
     }
 
@@ -320,5 +322,44 @@ public final class SolverTest {
         Check.write(loom, question);
         int cost = loom.search(year);
         CHECK.same(question + " in " + year, loom.goOn(cost), due ? year : AlmanacLoom.PAUSED);
+    }
+
+    /** In the year 0, the new moon behind 6 January is on day 5, a Thursday, or on day 6, a Friday. */
+    private static void costsByTable() {
+        AlmanacLoom loom = new AlmanacLoom();
+        Check.add(loom, "D0106Q?W5{>0}", 0, true);
+        int[] due = {10, 12};
+        for (int table : new int[] {AlmanacLoom.BOOK_MOON, AlmanacLoom.TRUE_MOON, AlmanacLoom.BOOK_MOON}) {
+            loom.table(table);
+            CHECK.same("yearCost by " + table, loom.yearCost(0), due[table]);
+            Check.write(loom, "C");
+            CHECK.same("search by " + table, loom.search(0), due[table]);
+            long before = loom.spent();
+            CHECK.same("goOn by " + table + ", too little", loom.goOn(due[table] - 1), AlmanacLoom.PAUSED);
+            CHECK.same("goOn by " + table, loom.goOn(due[table]), 0);
+            CHECK.same("spent by " + table, loom.spent() - before, due[table]);
+        }
+    }
+
+    /** Ten feasts of 40 characters: more would leave too few of 512 calls. */
+    private static void dearestYears() {
+        AlmanacLoom loom = new AlmanacLoom();
+        int price = 1 + 1 + 9 * (2 + 37 * 6);
+        Check.add(loom, "D0101", 0, false);
+        for (int feast = 1; feast < 10; feast++) {
+            Check.add(loom, "F00" + "O".repeat(37), 0, false);
+        }
+        CHECK.same("yearCost", loom.yearCost(399), price);
+        Check.write(loom, "N00");
+        CHECK.same("search", loom.search(0), price);
+        int years = 0;
+        for (int i = 0; i < 8; i++) {
+            CHECK.same("goOn", loom.goOn(100000), AlmanacLoom.PAUSED);
+            years += 100000 / price;
+            CHECK.same("spent", loom.spent(), years * price);
+        }
+        CHECK.same("the next year is just too dear", loom.goOn(price - 1), AlmanacLoom.PAUSED);
+        CHECK.same("the last years", loom.goOn((400 - years) * price), AlmanacLoom.NONE);
+        CHECK.same("all years", loom.spent(), 400 * price);
     }
 }

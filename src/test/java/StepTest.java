@@ -8,6 +8,7 @@ public final class StepTest {
         branches();
         logic();
         longest();
+        greatest();
         costs();
         costsOfFeasts();
         costsOfYears();
@@ -66,6 +67,33 @@ public final class StepTest {
         Check.add(loom, "D0101" + "OQ".repeat(17) + "X", 0, false);
         CHECK.same("steps of many moons", loom.steps(1), 36);
         CHECK.same("cost of many moons", loom.cost(1, 1), 1 + 34 * 6 + 1);
+    }
+
+    /** The most steps, the farthest days, the last place of a jump, and the dearest rule that 40 characters give. */
+    private static void greatest() {
+        AlmanacLoom loom = new AlmanacLoom();
+        Check.add(loom, "D0101", 0, false);
+        String[] rules = {"F00" + "+366".repeat(9), "F00" + "-366".repeat(9), "F00?Y{" + "O".repeat(33) + "}",
+            "F00" + "O".repeat(37)};
+        int[] steps = {2, 2, 36, 38};
+        int[] last = {50000 + 5000 + 9 * 366, 50000 + 5000 - 9 * 366, 100000, 100000};
+        int[] leapCosts = {3, 3, 2 + 1 + 1 + 33 * 6, 2 + 37 * 6};
+        for (int i = 0; i < rules.length; i++) {
+            int number = Check.add(loom, rules[i], 0, false);
+            CHECK.same("steps of " + rules[i], loom.steps(number), steps[i]);
+            CHECK.same("the last step of " + rules[i], loom.step(number, steps[i] - 1), last[i]);
+            CHECK.same("cost of " + rules[i], loom.cost(number, 4), leapCosts[i]);
+            CHECK.same("year's cost up to " + rules[i], loom.yearCost(4), loom.cost(1, 4) + 2
+                + (i > 0 ? leapCosts[1] : 0) + (i > 1 ? leapCosts[2] : 0) + (i > 2 ? leapCosts[3] : 0));
+        }
+        CHECK.same("a jump over all steps", loom.step(3, 2), 190036);
+        CHECK.same("a jump over all steps is cheap", loom.cost(3, 1), 4);
+        CHECK.same("the moon stays where it is", loom.bent(4, 4), loom.bent(3, 4));
+        Check.write(loom, rules[3]);
+        CHECK.same("steps of a mended rule", loom.mend(1), 38);
+        CHECK.same("steps of it", loom.steps(1), 38);
+        CHECK.same("the last place", loom.step(1, 37), 100000);
+        CHECK.index("no such place", () -> loom.step(1, 38));
     }
 
     private static void costs() {
